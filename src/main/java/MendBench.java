@@ -582,7 +582,7 @@ public final class MendBench {
         }
     }
 
-    /** A text, with room for two buffers' texts: an edit in the midst of others may make it so long. */
+    /** A text; the edits of one replacement may make it as long as two buffers on the way. */
     private static final class Text {
         static final int ROOM = 160;
         final int[] signs = new int[ROOM];
@@ -670,8 +670,9 @@ public final class MendBench {
         int count;
         int groups;
         final Program program = new Program();
-        /** Whether the engines 1 and 2 take it. */
+        /** Whether the engine 1 takes it. */
         boolean isThreaded;
+        /** Whether the engine 2 takes it. */
         boolean isAutomatic;
         int leastLength;
         long firstLow;
@@ -911,13 +912,14 @@ public final class MendBench {
         }
 
         private boolean addSigns(long low, long high) {
-            int node = pattern.count;
-            if (!addNode(Pattern.SIGN, 0, 0) || !pattern.isNode(node)) {
+            int node = countNode() ? pattern.add(Pattern.SIGN, 0, 0) : NONE;
+            if (!pattern.isNode(node)) {
                 return false;
             }
             pattern.signsLow[node] = low;
             pattern.signsHigh[node] = high;
-            return true;
+            mayRepeat = true;
+            return addItem(node);
         }
 
         private boolean addItem(int node) {
@@ -1933,8 +1935,8 @@ public final class MendBench {
         private boolean passWall(int at) {
             int node = choices[at + 1] >> 2;
             int look = choices[at + 3];
-            boolean isNot = pattern.isNode(node) && (pattern.kind[node] == Pattern.NOT_AHEAD || pattern.kind[node] == Pattern.NOT_BEHIND);
-            if (!isNot || !isFrame(look)) {
+            int kind = pattern.isNode(node) ? pattern.kind[node] : NONE;
+            if (kind != Pattern.NOT_AHEAD && kind != Pattern.NOT_BEHIND || !isFrame(look)) {
                 return false;
             }
             restore(at, cells[look + ONE], cells[look]);
@@ -2721,7 +2723,7 @@ public final class MendBench {
         /** Of each match where it starts and ends, and where what is put in its place begins. */
         private final int[] starts = new int[MOST_MATCHES];
         private final int[] ends = new int[MOST_MATCHES];
-        private final int[] madeFrom = new int[MOST_MATCHES + 1];
+        private final int[] madeFrom = new int[MOST_MATCHES];
         private final int[] froms = new int[MOST_EDITS];
         private final int[] gones = new int[MOST_EDITS];
         private final int[] puts = new int[MOST_EDITS];

@@ -610,8 +610,10 @@ public final class PromiseTest {
             b.fill(0, "a");
             Bench.same(levels + " looks", b.x.find(number, 0, 0, 0), levels <= 40 ? 0 : -1);
             Bench.same(levels + " looks", b.x.steps(number, 0, 0), levels <= 40 ? levels + 1 : 41 + 41);
-            int not = b.pattern("(?>(?&a)|b)|(?!(?&a))");
-            Bench.same(levels + " looks for nothing", b.x.find(not, 0, 0, 0), levels <= 39 ? 0 : levels <= 42 ? 0 : -1);
+            int within = b.pattern("(?>(?&a))");
+            Bench.same(levels + " looks in an atomic part", b.x.find(within, 0, 0, 0), levels <= 39 ? 0 : -1);
+            int possessive = b.pattern("(?:(?&a)){1}+");
+            Bench.same(levels + " looks in a repeat", b.x.find(possessive, 0, 0, 0), levels <= 39 ? 0 : -1);
         }
         // a look for nothing that is too deep has no way either
         Bench b = new Bench();
