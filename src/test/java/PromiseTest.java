@@ -180,6 +180,12 @@ public final class PromiseTest {
         Bench.same("151 nodes", parts.pattern("(?&a)" + times("b", 48) + "|a"), -1);
         Bench.same("150 nodes", parts.pattern("(?&a)" + times("b", 47) + "a?"), 1);
         Bench.same("201 nodes", parts.part('b', "(?&a)(?&a)"), -1);
+        String[] lasts = {"(?i:)", "()", "(?:)", "(?>)", "(?=)", "(?(1))", "(?0)", "(*F)", "[a]", "\\b", "^", "(?&e)", "(?i)."};
+        Bench.same("an empty part", parts.part('e', ""), 0);
+        for (String last : lasts) {
+            Bench.same("150 nodes", parts.part('c', "()(?&a)" + times("b", 47) + last), 150);
+            Bench.same("151 nodes", parts.part('c', "()(?&a)" + times("b", 48) + last), -1);
+        }
     }
 
     private static void patternTexts() {
@@ -222,6 +228,11 @@ public final class PromiseTest {
         for (String text : aren) {
             isPattern(text, false);
         }
+        classHas("@", "?@A", "@");
+        classHas("[?-A]", ">?@AB", "?@A");
+        classHas("[^@]", "?@A`", "?A`");
+        classHas("(?i)[@-\\[]", "@A[`a{z", "@A[az");
+        classHas("(?i)@", "@`", "@");
         String signs = " !#&-0aAbBzZ_~\n";
         classHas("[a-c&&[^b]]", signs, "a");
         classHas("[\\w--[a-z]--\\d]", signs, "ABZ_");
@@ -269,7 +280,9 @@ public final class PromiseTest {
             "?1{?2{a}}", "?1{a|?}", "??", "?{a}", "?12{a}", "?1{$}", "?1{a|\\}", "?1{${a|b}",
         };
         for (String text : are) {
-            Bench.same("template " + text, new Bench().template(text), 0);
+            Bench b = new Bench();
+            Bench.same("template " + text, b.template(text), 0);
+            Bench.same("draft", b.x.clear(), 0);
         }
         for (String text : aren) {
             Bench b = new Bench();
@@ -311,6 +324,12 @@ public final class PromiseTest {
         told("groups", "(?:a{9}b){10}", 3);
         told("groups", "(?:a{9}b){10}d", 0);
         told("groups", "(?:a{19})+", 3);
+        told("groups", "(?:a{9}b){8}c{17,}" + times("d", 20), 3);
+        told("groups", "(?:a{9}b){8}c{17,}" + times("d", 21), 0);
+        told("groups", "(?:a{9}b){8}c+" + times("d", 36), 3);
+        told("groups", "(?:a{9}b){8}c+" + times("d", 37), 0);
+        told("groups", "(?:a{9}b){8}c*" + times("d", 37), 3);
+        told("groups", "(?:a{9}b){8}c*" + times("d", 38), 0);
         told("groups", times("a", 100) + "b{20}c{20}d{10}", 3);
         told("groups", times("a", 101) + "b{20}c{20}d{10}", 0);
         told("groups", times("a", 100) + "b{20}c{20}(?:){20}", 3);
@@ -525,6 +544,13 @@ public final class PromiseTest {
         finds("\\B", "a", -1);
         finds("\\B", "", 0);
         finds("\\b", " ", -1);
+        for (char word : "09azAZ_".toCharArray()) {
+            finds("\\b", " " + word, 1001);
+            finds("\\B", "" + word, -1);
+        }
+        for (char other : "/:@[`{^~\n".toCharArray()) {
+            finds("\\b", " " + other, -1);
+        }
         finds("(?i:a)b", "Ab", 2);
         finds("(?i:a)b", "AB", -1);
         finds("(?:a(?i)b|c)d", "Cd", 2);
@@ -591,6 +617,8 @@ public final class PromiseTest {
         int seen = b.pattern("(.)((?1)\\1)");
         b.fill(2, "aba");
         Bench.same("behind a call the group is as ahead", b.x.find(seen, 2, 0, 0), 3);
+        finds("(a)(b)()()()()()()(c)(?9)\\9", "abccc", 5);
+        finds("(a)(b)()()()()()()(c)(?9)\\9", "abccb", -1);
         // within 20 calls that are not ended there is no further one
         finds("(?0)|a", "a", 1);
         finds("^(a(?1)?b)$", times("a", 21) + times("b", 21), 42);
@@ -656,6 +684,13 @@ public final class PromiseTest {
             Bench.fails("by", INDEX, () -> b.x.by(engine, number, 0, 6, 0));
             Bench.fails("by", INDEX, () -> b.x.by(engine, number, 0, 0, 3));
         }
+        // what is repeated no times can be large
+        Bench large = new Bench();
+        int never = large.pattern("x(?:(?:(?:a{20}|b){20}){20}|(c)){0}y|z");
+        large.fill(0, "axy");
+        Bench.same("by 1", large.x.by(1, never, 0, 0, 0), 1003);
+        Bench.same("by 2", large.x.by(2, never, 0, 0, 0), 1003);
+        Bench.same("by 1", large.x.by(1, never, 0, 0, 1), -3);
         // of a repeat that is written out each round has its own place
         Bench r = new Bench();
         int[] patterns = {r.pattern("(?:(a)|b){2,4}?c"), r.pattern("(a{0,3}?)(a{2,})"), r.pattern("(?:(?:a|ab)(?:c|bcd)?){1,3}x?")};
