@@ -17,7 +17,9 @@ public final class MendBench {
     private final Text draft = new Text();
     private final Reader reader = new Reader();
     private final Facts facts = new Facts();
-    private Pattern spare = new Pattern();
+    /** What parts are read as: of them their texts alone are kept. */
+    private final Pattern spare = new Pattern();
+    // The rows of all that a bench can ever keep are made with it, and none in its calls.
     private final Pattern[] patterns = new Pattern[MOST_PATTERNS];
     private int patternCount;
     private final Text[] templates = new Text[MOST_TEMPLATES];
@@ -37,6 +39,15 @@ public final class MendBench {
 
     /** Creates a bench with an empty draft, empty buffers, and without patterns. */
     public MendBench() {
+        for (int i = 0; i < MOST_PATTERNS; i++) {
+            patterns[i] = new Pattern();
+        }
+        for (int i = 0; i < MOST_TEMPLATES; i++) {
+            templates[i] = new Text();
+        }
+        for (int i = 0; i < MOST_STREAMS; i++) {
+            streams[i] = new Stream();
+        }
     }
 
     // ---- the draft, patterns and templates
@@ -77,12 +88,11 @@ public final class MendBench {
         if (patternCount >= MOST_PATTERNS) {
             throw new IllegalStateException("there are 12 patterns");
         }
-        if (!reader.read(draft, spare, NONE)) {
+        Pattern next = patterns[patternCount];
+        if (!reader.read(draft, next, NONE)) {
             return NONE;
         }
-        facts.learn(spare);
-        patterns[patternCount] = spare;
-        spare = new Pattern();
+        facts.learn(next);
         draft.count = 0;
         patternCount++;
         return patternCount - 1;
@@ -95,9 +105,7 @@ public final class MendBench {
         if (!Mender.isTemplate(draft)) {
             return NONE;
         }
-        Text kept = new Text();
-        kept.copy(draft);
-        templates[templateCount] = kept;
+        templates[templateCount].copy(draft);
         draft.count = 0;
         templateCount++;
         return templateCount - 1;
@@ -394,9 +402,7 @@ public final class MendBench {
         if (!told.isAutomatic || streamCount >= MOST_STREAMS) {
             throw new IllegalStateException("the engine 2 does not take it, or there are 4 streams");
         }
-        Stream begun = new Stream(isAnchored);
-        begun.begin(told.program);
-        streams[streamCount] = begun;
+        streams[streamCount].begin(told.program, isAnchored);
         streamCount++;
         return streamCount - 1;
     }
@@ -789,8 +795,9 @@ public final class MendBench {
         static final int MOST_TURNS = 100000;
         static final int CASES = 1, DOTS = 2, LINES = 4;
 
-        /** The texts of the parts by their letters, null where there is none. */
+        /** The texts of the parts by their letters, where there are such. */
         private final Text[] parts = new Text[LETTERS];
+        private final boolean[] hasPart = new boolean[LETTERS];
         private final ClassReader classes = new ClassReader();
         private final Open[] opens = new Open[MOST_NODES + 2];
         /** The texts that are read around the one that is read now, and where they go on. */
@@ -810,18 +817,16 @@ public final class MendBench {
             for (int i = 0; i < opens.length; i++) {
                 opens[i] = new Open();
             }
+            for (int i = 0; i < LETTERS; i++) {
+                parts[i] = new Text();
+            }
         }
 
         void keepPart(int letter, Text told) {
-            if (!isLower(letter)) {
-                return;
+            if (isLower(letter)) {
+                parts[letter - 'a'].copy(told);
+                hasPart[letter - 'a'] = true;
             }
-            Text kept = parts[letter - 'a'];
-            if (kept == null) {
-                kept = new Text();
-                parts[letter - 'a'] = kept;
-            }
-            kept.copy(told);
         }
 
         /** Whether a text is a pattern; it must not include the part with a barred letter. */
@@ -1240,15 +1245,14 @@ public final class MendBench {
             if (!isLower(letter) || peek(3) != ')' || letter == barred) {
                 return false;
             }
-            Text part = parts[letter - 'a'];
-            if (part == null || level < 0 || level >= LEVELS || !countNode()) {
+            if (!hasPart[letter - 'a'] || level < 0 || level >= LEVELS || !countNode()) {
                 return false;
             }
             spot += 4;
             outers[level] = text;
             outerSpots[level] = spot;
             level++;
-            text = part;
+            text = parts[letter - 'a'];
             spot = 0;
             return begin(Pattern.PLAIN, 0, true);
         }
@@ -1468,6 +1472,9 @@ public final class MendBench {
         private final long[] just = new long[2 * Pattern.ROOM];
         private final long[] inner = new long[2 * Pattern.ROOM];
         private final long[] away = new long[2 * Pattern.ROOM];
+        // Of each node where it begins in the program, and whether it is in what is repeated no times.
+        private final int[] begins = new int[Pattern.ROOM];
+        private final boolean[] isNever = new boolean[Pattern.ROOM];
         private final Text run = new Text();
         private Pattern pattern;
 
@@ -1488,7 +1495,7 @@ public final class MendBench {
             pattern.isThreaded = bulk[root] <= MOST_THREADED && isPlain();
             pattern.isAutomatic = pattern.isThreaded && !hasEnds();
             if (pattern.isThreaded) {
-                pattern.program.write(pattern);
+                pattern.program.write(pattern, begins, isNever);
             }
         }
 
@@ -1675,11 +1682,17 @@ public final class MendBench {
     /** The engine 0: finds by trying back. */
     private static final class Search {
         static final int MOST_STEPS = 1000, MOST_CALLS = 20, MOST_LOOKS = 40;
-        static final int MOST_TURNS = 10000000, MOST_CELLS = 1 << 20;
+        static final int MOST_TURNS = 100000000;
         static final int GOES_ON = 0, FOUND = 1, MISSED = 2, STOPPED = 3, SKIPPED = 4;
         // A frame has the one around it, a tag, and two numbers. The tag is a kind, and how many calls and
         // looks are not ended there. What a group has is a frame, too: its tag is the group.
         static final int FRAME = 4, TAG = 1, ONE = 2, TWO = 3;
+        // All frames that a search within its steps can need. A step has one frame at most: a repeat, a call or a
+        // look that is begun its own, a round that of the rounds behind it. A group takes no step, and has two
+        // frames, one as it begins and one as it ends: but it is come to once at most in each round, once in each
+        // call, and once outside of these, since nothing else leads back to what is ahead; and each round and each
+        // call is a step. Going back gives up the frames of what it leaves, and each start begins with none.
+        static final int MOST_FRAMES = MOST_STEPS + 2 * Reader.MOST_GROUPS * (MOST_STEPS + 1);
         static final int LOOP = 0, SPAN = 1, CALLED = 2, LOOKED = 3;
         static final int KINDS = 7, CALL_BIT = 8, LOOK_BIT = 256;
         // A choice has its kind, a code, a place, a frame, what groups have, and how many cells were used.
@@ -1693,9 +1706,10 @@ public final class MendBench {
         private int frame;
         private int got;
         // Frames are never changed; going back gives those up that came behind a choice.
-        private int[] cells = new int[4096];
+        private final int[] cells = new int[FRAME * MOST_FRAMES];
         private int used;
-        // Each choice comes with a step of its own.
+        // Each choice comes with a step of its own: a row, a verb or a look that is begun, a repeat that is begun for
+        // that ahead of its first round, and a round for that behind it. So there are at most as many as steps.
         private final int[] choices = new int[CHOICE * (MOST_STEPS + 2)];
         private int height;
         private boolean isFar;
@@ -1824,14 +1838,10 @@ public final class MendBench {
         }
 
         private int pushCell(int around, int tag, int one, int two) {
-            if (used + FRAME > cells.length) {
-                if (cells.length >= MOST_CELLS) {
-                    isFar = true;
-                    return around;
-                }
-                cells = Arrays.copyOf(cells, 2 * cells.length);
-            }
             int pushed = used;
+            if (pushed < 0 || pushed + FRAME > cells.length) {
+                return around;
+            }
             cells[pushed] = around;
             cells[pushed + TAG] = tag;
             cells[pushed + ONE] = one;
@@ -1854,7 +1864,7 @@ public final class MendBench {
 
         private int recordOf(int group) {
             int has = got;
-            for (int i = 0; i < MOST_CELLS && isFrame(has); i++) {
+            for (int i = 0; i < MOST_FRAMES && isFrame(has); i++) {
                 if (cells[has + TAG] == group) {
                     return has;
                 }
@@ -1866,7 +1876,6 @@ public final class MendBench {
         private void keep(int kind, int keptCode, int keptFrame) {
             int at = CHOICE * height;
             if (height < 0 || at + CHOICE > choices.length) {
-                isFar = true;
                 return;
             }
             choices[at] = kind;
@@ -2159,13 +2168,12 @@ public final class MendBench {
             return at >= 0 && at < count && at < ROOM;
         }
 
-        /** Writes a pattern whose size is at most 200. */
-        void write(Pattern pattern) {
-            int[] begins = new int[Pattern.ROOM];
-            boolean[] isNever = new boolean[Pattern.ROOM];
-            findNever(pattern, isNever);
+        /** Writes a pattern whose size is at most 200; the rows of work have the room of its nodes. */
+        void write(Pattern pattern, int[] begins, boolean[] isNever) {
+            int nodes = Math.min(pattern.count, Math.min(begins.length, isNever.length));
+            findNever(pattern, isNever, nodes);
             count = 0;
-            for (int node = 0; node < pattern.count && node < Pattern.ROOM; node++) {
+            for (int node = 0; node < nodes; node++) {
                 begins[node] = count;
                 if (!isNever[node]) {
                     writeNode(pattern, node, begins);
@@ -2176,8 +2184,11 @@ public final class MendBench {
         }
 
         /** What is repeated no times is not written: it could be larger than the room. */
-        private void findNever(Pattern pattern, boolean[] isNever) {
-            for (int node = Math.min(pattern.count, Pattern.ROOM) - 1; node >= 0; node--) {
+        private void findNever(Pattern pattern, boolean[] isNever, int nodes) {
+            for (int node = 0; node < nodes; node++) {
+                isNever[node] = false;
+            }
+            for (int node = nodes - 1; node >= 0; node--) {
                 boolean isOut = isNever[node] || Pattern.isRepeat(pattern.kind[node]) && pattern.high[node] == 0;
                 int inner = pattern.child[node];
                 for (int i = 0; i < Pattern.ROOM && isOut && pattern.isNode(inner); i++) {
@@ -2285,6 +2296,9 @@ public final class MendBench {
         }
 
         private void findLive() {
+            for (int at = 0; at < ROOM; at++) {
+                isLive[at] = false;
+            }
             boolean isNew = true;
             for (int turn = 0; turn <= ROOM && isNew; turn++) {
                 isNew = false;
@@ -2488,14 +2502,11 @@ public final class MendBench {
     private static final class Stream {
         final Text text = new Text();
         private final Threads run = new Threads(Threads.START_ALONE);
-        private final boolean isAnchored;
+        private boolean isAnchored;
         boolean isFinished;
 
-        Stream(boolean isAnchored) {
-            this.isAnchored = isAnchored;
-        }
-
-        void begin(Program program) {
+        void begin(Program program, boolean fromStartAlone) {
+            isAnchored = fromStartAlone;
             run.begin(program);
             run.settle(text, 0, true);
         }
