@@ -4,6 +4,8 @@ import java.util.function.IntSupplier;
 final class Bench {
     static int wrong = 0;
     static int checked = 0;
+    /** The words of the document that are held just now, if a test tells them. */
+    static String sentence = "";
 
     final MendBench x = new MendBench();
 
@@ -59,15 +61,19 @@ final class Bench {
         checked++;
         if (answered != due) {
             wrong++;
-            System.out.println(what + " answered " + answered + ", due is " + due);
+            say(what + " answered " + answered + ", due is " + due);
         }
+    }
+
+    private static void say(String what) {
+        System.out.println(sentence.isEmpty() ? what : what + "\n    by: " + sentence);
     }
 
     static void same(String what, String answered, String due) {
         checked++;
         if (!answered.equals(due)) {
             wrong++;
-            System.out.println(what + " answered '" + answered + "', due is '" + due + "'");
+            say(what + " answered '" + answered + "', due is '" + due + "'");
         }
     }
 
@@ -81,11 +87,11 @@ final class Bench {
         try {
             int answered = call.getAsInt();
             wrong++;
-            System.out.println(what + " answered " + answered + ", due is " + due.getName());
+            say(what + " answered " + answered + ", due is " + due.getName());
         } catch (RuntimeException e) {
             if (e.getClass() != due) {
                 wrong++;
-                System.out.println(what + " threw " + e + ", due is " + due.getName());
+                say(what + " threw " + e + ", due is " + due.getName());
             }
         }
     }
