@@ -978,7 +978,19 @@ public final class EdgeFaceTest {
         }
         Bench.same("shut", groups.x.shut(), 1);
         Bench.same("undo", groups.x.undo(), 509);
-        // 500 times the most edits of a macro, and the very last call takes one of them back.
+        // The same search again and again, with very much around it, by each way that there is.
+        Bench found = new Bench();
+        found.pattern("(((((((((a)))))))))+");
+        found.fill(0, times("a", 80));
+        for (int i = 0; i < 75; i++) {
+            Bench.same("find", found.x.find(0, 0, 0, 9), 79080);
+            Bench.same("anew", found.x.anew(0, 0, 0, 9), 79080);
+            Bench.same("by 0", found.x.by(0, 0, 0, 0, 0), 80);
+            Bench.same("by 1", found.x.by(1, 0, 0, 0, 9), 79080);
+            Bench.same("by 2", found.x.by(2, 0, 0, 0, 0), 80);
+            Bench.same("back", found.x.back(0, 0, 79), 79080);
+        }
+        // 470 times the most edits of a macro, and the last but one call takes one of them back.
         Bench most = new Bench();
         most.pattern("a|");
         most.template("$0");

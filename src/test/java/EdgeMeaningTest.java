@@ -230,6 +230,9 @@ public final class EdgeMeaningTest {
         Ask.finds("(a)\\1", "a", -1);
         Ask.finds("(ab)\\1", "aba", -1);
         Ask.finds("(ab)\\1", "abab", 4);
+        Ask.finds("(a(b)c)\\1", "abcabc", 6);
+        Ask.finds("(a(b)c)\\1", "abcbc", -1);
+        Ask.finds("x(a(b)c)\\2\\1", "xabcbabc", 8);
         Ask.finds("(" + times(".", 40) + ")\\1", times("ab", 40), 80);
         Ask.finds("(a)?\\1", "", -1);
         Ask.finds("(a)?\\1", "b", -1);
@@ -939,6 +942,8 @@ public final class EdgeMeaningTest {
         Ask.runsAway("(?:a?b*)+", 'b');
         Ask.runsAway("(?:a+|bc+)+", 'a');
         Ask.runsAway("(?:ab+|c+)+", 'c');
+        Ask.runsAway("(?:c+)+|a", 'c');
+        Ask.runsAway("a|(?:c+)+|b", 'c');
         Ask.runsAway("(?:a*b*)*", 'a');
         Ask.runsAway("(?:b*a*)*", 'a');
         Ask.runsAway("(?:[^ -~]*)*", 10);
@@ -1062,7 +1067,7 @@ public final class EdgeMeaningTest {
 
     private static void manyPatterns() {
         Sentence.says("(patterns that were read stay as they are)");
-        String[] patterns = {"(?:a+)+(b|c)", "", "[a-z]\\1(-)", "(?<n>a)\\k<n>", "abcde|(?i)x", "-", "((((b))))", "a{20}", "(?0)|^b", "[a&&b]",
+        String[] patterns = {"x(?:a(b|c)*d){0}y|-aa", "(?:a+)+(b|c)", "(?:[b-c]+)+(b|c)", "[a-z]\\1(-)", "(?<n>a)\\k<n>", "abcde|(?i)x", "-", "((((b))))", "(?0)|^b", "[a&&b]",
             "(?>a*)(*S)c", "\\bb(?!c)"};
         for (int turn = 0; turn < 2; turn++) {
             Bench all = new Bench();
@@ -1081,6 +1086,18 @@ public final class EdgeMeaningTest {
             }
             for (int i = 0; i < patterns.length; i += 5) {
                 Bench.same("and still: " + i, factsOf(all, i), told[i]);
+            }
+        }
+        Sentence.says("-1 if it is none, and then nothing changes.");
+        for (String none : new String[] {times("\\9", 20), times("^", 20) + "(", times("(*F)", 20) + "(", times("(a)", 9) + "(a)", times("a*", 20) + "\\1"}) {
+            for (String pattern : new String[] {"", "a", "ab", "abc", "a|b", "(a)", "a+b?", "(?:a+)+"}) {
+                Bench alone = new Bench();
+                alone.fill(0, "-aab-abc");
+                String told = factsOf(alone, alone.pattern(pattern));
+                Bench behind = new Bench();
+                behind.fill(0, "-aab-abc");
+                Bench.same(none, behind.pattern(none), -1);
+                Bench.same("behind " + none, factsOf(behind, behind.pattern(pattern)), told);
             }
         }
     }

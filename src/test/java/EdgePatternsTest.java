@@ -458,7 +458,7 @@ public final class EdgePatternsTest {
         isOf("[?-\\[]", "?@" + UPPERS + "[");
         isOf("[a-cx-z]", "abcxyz");
         Ask.areNone("[b-a]", "[~- ]", "[ -\\n]", "[ -\n]", "[a-]", "[-a]", "[-]", "[a-b-c]", "[a-\\d]", "[\\d-a]", "[a-[b]]", "[[a]-b]", "[a-]]", "[a-&&b]",
-            "[!-&&a]", "[a-b", "[a-", "[z-\\a]");
+            "[!-&&a]", "[a-b", "[a-", "[z-\\a]", "[A-[b]]", "[A-[b]", "[A-[]", "[!-]]", "[!-]", "[!-[]]", "[!--]", "[A-\\w]");
     }
 
     private static void classSingles() {
@@ -541,6 +541,7 @@ public final class EdgePatternsTest {
         }
         Ask.areNone("(?<a>(?<a>))", "(?<a>)|(?<a>)", "(?<a>)()(?<a>)", "(?<>a)", "(?<ab>a)", "(?<a)", "(?<a", "(?<", "(?<a>", "(?<a>a", "(?'a'a)", "(?a>a)",
             "(?<a>)(?<b>)(?<c>)(?<d>)(?<e>)(?<f>)(?<g>)(?<h>)(?<i>)(?<j>)");
+        Ask.areNone("(a(?<A>b)", "(a(?<>b)", "(a(?<ab>c)", "a(?<A>b", "a(?<a", "a(?<a>", "a(?<", "a(?<1>b", "a(?<a>)(?<a>b", "a(?<ab");
         Ask.arePatterns("(?<a>)(?<b>)(?<c>)(?<d>)(?<e>)(?<f>)(?<g>)(?<h>)(?<i>)", "(?<a>(?<b>))", "(?<a>>)");
     }
 
@@ -575,7 +576,7 @@ public final class EdgePatternsTest {
             Ask.finds("^" + ahead + "(y)?(?(" + n + ")a)$", "a", -1);
         }
         Ask.arePatterns("()(?(1))", "()(?(1)|)", "()(?(1)|a)", "()(?(1)a|)", "(?(1)a|b)()", "()(?(1)(?(1)a|b)|(?(1)c|d))");
-        Ask.areNone("()(?(1)a|b|c)", "()(?(1)||)", "()(?(10)a)", "()(?(01)a)", "()(?()a)", "()(?(1a)", "()(?(1)a", "()(?(1)", "()(?(1", "()(?(", "()(?(1)a|b",
+        Ask.areNone("(?(1)|a|b)()", "(?(1)||)()", "(?(1)a|b|)()", "()(?(1)a|b|c)", "()(?(1)||)", "()(?(10)a)", "()(?(01)a)", "()(?()a)", "()(?(1a)", "()(?(1)a", "()(?(1)", "()(?(1", "()(?(", "()(?(1)a|b",
             "()(?(-1)a)", "(?<x>)(?(<x>)a)", "(?<x>)(?(x)a)", "(?(1)a)", "()(?(2)a)", "()()()()()()()()(?(9)a)");
     }
 
@@ -593,6 +594,15 @@ public final class EdgePatternsTest {
         }
         Ask.finds("^(?:a(?:(?0)|b)$|c)", "ab", 2);
         Ask.finds("a(?0)?b", "aabb", 4);
+        Ask.finds("(?0)b|a", "ab", 2);
+        Ask.finds("(?0)b|a", "abb", 3);
+        Ask.finds("x(?0)y|a", "xay", 3);
+        Ask.finds("x(?0)y|a", "xxayy", 5);
+        // It is the group that is called, not a condition of that number or another bracket.
+        Ask.finds("(a)(?(1)b)(?1)", "aba", 3);
+        Ask.finds("(a)(?(1)b)(?1)", "abb", -1);
+        Ask.finds("(a)(?:b)(?0)?", "abab", 4);
+        Ask.finds("(a)(?=b)(?i:b)(?1)", "aba", 3);
         Ask.areNone("()(?10)", "()(?01)", "()(?1", "()(?", "()(?+1)", "()(?-1)", "()(?1:a)", "()(?1a)", "()(?R)", "(?1)");
     }
 
@@ -614,7 +624,7 @@ public final class EdgePatternsTest {
         Bench.same("its alternatives are its own", b.x.find(among, 0, 0, 0), 3);
         b.fill(0, "by");
         Bench.same("its alternatives are its own", b.x.find(among, 0, 0, 0), -1);
-        for (String wrong : new String[] {"(?&)", "(?&", "(?&a", "(?&ab)", "(?&A)", "(?&1)", "(?a)", "(?&a:)", "(?&b)"}) {
+        for (String wrong : new String[] {"(?&)", "(?&", "(?&a", "(?&ab)", "(?&A)", "(?&1)", "(?a)", "x(?&", "x(?&b", "x(?&A", "x(?&b)", "x(?&a", "(x(?&b)", "(x(?&A)", "(x(?&)", "(?&a:)", "(?&b)"}) {
             Bench.same(wrong, b.pattern(wrong), -1);
         }
     }
@@ -624,7 +634,7 @@ public final class EdgePatternsTest {
         for (char c : ALL.toCharArray()) {
             Ask.isPattern("(*" + c + ")", "FCS".indexOf(c) >= 0);
         }
-        Ask.areNone("(*", "(*F", "(*)", "(*FF)", "(*F:a)", "(*FAIL)", "(* F)", "(?*F)", "(*f)", "*F)");
+        Ask.areNone("(a(*)", "(a(*x)", "(a(*F)(", "a(*", "a(*F", "a(*x", "a(*F(", "(*", "(*F", "(*)", "(*FF)", "(*F:a)", "(*FAIL)", "(* F)", "(?*F)", "(*f)", "*F)");
         Ask.finds("a(*F)|b", "ab", 1002);
         Ask.finds("a(*C)(?!)|b", "ab", -1);
         Ask.finds("a(*S)(?!)|b", "ab", 1002);
@@ -641,6 +651,8 @@ public final class EdgePatternsTest {
             }
         }
         Ask.areNone("(?)", "(?i", "(?i-s", "(?i:", "(?i:a", "(?-", "(?i-", "(i)*)", "(?i;a)", "(?i))");
+        // Behind an atom, and without an end: nothing of it is read in another way.
+        Ask.areNone("(a(?)", "(a(?-)", "(a(?i-)", "(a(?x)", "(a(?ix)", "a(?", "a(?i", "a(?-", "a(?i-", "a(?i-s", "a(?x", "a(?i:", "a(?-:a)", "a(?i-:a)");
         Ask.isPattern("(?" + times("i", 117) + ")", true);
         Ask.isPattern("(?" + times("ism", 38) + "-i)", true);
     }
@@ -666,6 +678,16 @@ public final class EdgePatternsTest {
         Ask.finds("()(?(1)(?i)a|b)a", "AA", -1);
         Ask.finds("()?(?(1)(?i)|a)a", "A", -1);
         Ask.finds("(x)?(?(1)(?i)a|b)a", "Ba", 2);
+        // Each switch is its own.
+        for (String on : new String[] {"", "i", "s", "m", "is", "im", "sm", "ism"}) {
+            for (String off : new String[] {"", "i", "s", "m", "ism"}) {
+                String told = (on.isEmpty() ? "" : "(?" + on + ")") + (off.isEmpty() ? "" : "(?-" + off + ")");
+                Ask.finds(told + "a", "A", on.contains("i") && !off.contains("i") ? 1 : -1);
+                Ask.finds(told + ".", "\n", on.contains("s") && !off.contains("s") ? 1 : -1);
+                Ask.finds(told + "^a", "\na", on.contains("m") && !off.contains("m") ? 1002 : -1);
+                Ask.finds(told + "a$", "a\n", on.contains("m") && !off.contains("m") ? 1 : -1);
+            }
+        }
         Sentence.says("\":\" pattern \")\" in place of \")\" does so for that pattern alone.");
         Ask.finds("(?i:a)a", "Aa", 2);
         Ask.finds("(?i:a)a", "AA", -1);
@@ -760,6 +782,7 @@ public final class EdgePatternsTest {
             Ask.isPattern(good + more, false);
             Ask.isPattern("(?:" + good + more + ")", false);
         }
+        Ask.areNone("a)(b", "a)b(", ")(", "a)|(b", "(a))((b)", "[a]](", "a](", "(a]", "(a[)]");
         Ask.isPattern(times("a", 119) + "(", false);
         Ask.isPattern(times("a", 119) + "\\", false);
         Ask.isPattern(times("a", 120), true);
