@@ -43,6 +43,7 @@ public final class EdgeFaceTest {
         recordedAndPlayed();
         streamed();
         firstException();
+        outOfRange();
         refusedAnywhere();
         fullOfAll();
         manyCalls();
@@ -193,6 +194,11 @@ public final class EdgeFaceTest {
         Bench.same("four of 10", b.x.type(0x0a0a0a0a), 18);
         b.x.fill(0);
         Bench.same("in their order", b.text(0), "abcdefghij~~~~\n\n\n\n");
+        Sentence.says("Returns how many the draft has then.");
+        Bench counted = new Bench();
+        for (int had = 1; had <= 120; had++) {
+            Bench.same("type", counted.x.type(had % 2 == 0 ? 10 : 126), had);
+        }
         Sentence.says("Throws `IllegalArgumentException` if four tells no character, or others than those of texts");
         int[] wrong = {0, 1, 9, 11, 31, 127, 128, 255, 256, 'a' << 8, 'a' << 16, 'a' << 24, 'a' | 'a' << 16, 'a' | 'a' << 24, 'a' | 'a' << 8 | 'a' << 24,
             'a' | 9 << 8, 'a' | 127 << 8, 'a' | 'a' << 8 | 31 << 16, 'a' | 'a' << 8 | 'a' << 16 | 127 << 24, 'a' | 'a' << 8 | 'a' << 16 | 128 << 24,
@@ -216,6 +222,10 @@ public final class EdgeFaceTest {
     }
 
     private static void cleared() {
+        Sentence.says("Returns how many characters it had.");
+        Bench.same("none", new Bench().x.clear(), 0);
+        Bench.same("one", new Bench().typed("a").x.clear(), 1);
+        Bench.same("as many as there can be", new Bench().typed(times("a", 120)).x.clear(), 120);
         Sentence.says("Empties the draft.");
         for (int had : new int[] {0, 1, 4, 119, 120}) {
             Bench b = new Bench().typed(times("a", had));
@@ -261,6 +271,16 @@ public final class EdgeFaceTest {
         for (int wrong : new int[] {96, 123, 0, -1, -97, 65, 90, 97 + 256, MIN, MAX}) {
             always("part " + wrong, ARGUMENT, x -> x.part(wrong));
         }
+        Sentence.says("Throws `IllegalArgumentException` if letter is out of range");
+        for (int wrong = 0; wrong < 300; wrong++) {
+            final int told = wrong;
+            Bench some = new Bench();
+            some.draft(wrong % 2 == 0 ? "a" : "(");
+            if (wrong < 97 || wrong > 122) {
+                Bench.fails("part " + wrong, ARGUMENT, () -> some.x.part(told));
+                Bench.same("the draft", some.x.clear(), 1);
+            }
+        }
         for (int letter = 97; letter <= 122; letter++) {
             Bench.same("part " + letter, new Bench().part((char) letter, "a"), 1);
         }
@@ -287,6 +307,13 @@ public final class EdgeFaceTest {
         Bench.same("none", b.pattern(")"), -1);
         Bench.same("the next one", b.pattern("b"), 1);
         Bench.same("the first one is as it was", b.x.literal(0, 0), 'a');
+        Sentence.says("Reads the draft as a pattern; the draft is empty then.");
+        for (int size : new int[] {0, 1, 119, 120}) {
+            Bench some = new Bench().typed(times("a", size));
+            Bench.same("pattern", some.x.pattern(), 0);
+            Bench.same("the draft", some.x.clear(), 0);
+            Bench.same("all of it is read", some.x.least(0), size);
+        }
         Sentence.says("Throws `IllegalStateException` if there are 12 patterns");
         for (String draft : new String[] {"", "a", "("}) {
             Consumer<Bench> twelve = some -> {
@@ -320,6 +347,20 @@ public final class EdgeFaceTest {
             b.fill(0, "a");
             b.x.replace(0, i, 0, 1);
             Bench.same("each is its own", b.text(0), "" + i);
+        }
+        Sentence.says("Reads the draft as a template; the draft is empty then.");
+        for (int size : new int[] {0, 1, 79, 80, 81, 120}) {
+            Bench some = new Bench();
+            some.pattern("");
+            some.typed(times("a", size));
+            Bench.same("template", some.x.template(), 0);
+            Bench.same("the draft", some.x.clear(), 0);
+            if (size <= 80) {
+                Bench.same("replace", some.x.replace(0, 0, 0, 1), 1);
+                Bench.same("all of it is read", some.text(0), times("a", size));
+            } else {
+                Bench.fails("replace", STATE, () -> some.x.replace(0, 0, 0, 1));
+            }
         }
         Sentence.says("Throws `IllegalStateException` if there are 8 templates");
         for (String draft : new String[] {"", "a", "$"}) {
@@ -608,6 +649,12 @@ public final class EdgeFaceTest {
     }
 
     private static void sizesAndSigns() {
+        Sentence.says("Throws `IndexOutOfBoundsException` if there is no such buffer");
+        for (int wrong : new int[] {-2, -1, 3, 4, 256, MIN, MAX}) {
+            refused("fill " + wrong, INDEX, EdgeFaceTest::rich, x -> x.fill(wrong));
+            refused("fill " + wrong + " with a long draft", INDEX, EdgeFaceTest::longDraft, x -> x.fill(wrong));
+            refused("size " + wrong, INDEX, EdgeFaceTest::rich, x -> x.size(wrong));
+        }
         Sentence.says("Throws `IndexOutOfBoundsException` if there is no such buffer, or no character behind that place");
         for (int wrong : new int[] {-1, 3, MIN, MAX}) {
             always("size " + wrong, INDEX, x -> x.size(wrong));
@@ -636,6 +683,18 @@ public final class EdgeFaceTest {
         rich(b);
         Bench.same("most 1", b.x.replace(0, 0, 0, 1), 1);
         Bench.same("most 100", b.x.replace(0, 0, 0, 100), 1);
+        Sentence.says("Throws `IllegalArgumentException` if most is out of range");
+        for (int most = -3; most <= 105; most++) {
+            final int told = most;
+            Bench some = new Bench();
+            rich(some);
+            if (most >= 1 && most <= 100) {
+                Bench.same("most " + most, some.x.replace(0, 0, 0, told), Math.min(2, most));
+            } else {
+                Bench.fails("most " + most, ARGUMENT, () -> some.x.replace(0, 0, 0, told));
+                Bench.same("the text", some.text(0), "abcab");
+            }
+        }
         Sentence.says("Throws `IndexOutOfBoundsException` if there is no such pattern, template or buffer");
         for (int wrong : new int[] {-1, 99, MIN, MAX}) {
             for (int k = 0; k < 3; k++) {
@@ -739,6 +798,19 @@ public final class EdgeFaceTest {
     }
 
     private static void undoneAndRedone() {
+        Sentence.says("Returns how many edits that are.");
+        Bench counted = new Bench();
+        counted.pattern("");
+        counted.template("");
+        for (int size : new int[] {0, 1, 79, 80}) {
+            counted.fill(0, times("a", size));
+            Bench.same("replace", counted.x.replace(0, 0, 0, 100), size + 1);
+            Bench.same("undo", counted.x.undo(), size + 1);
+            Bench.same("redo", counted.x.redo(), size + 1);
+            Bench.same("undo", counted.x.undo(), size + 1);
+            Bench.same("undo of a fill", counted.x.undo(), 1);
+            Bench.same("redo of a fill", counted.x.redo(), 1);
+        }
         Sentence.says("Undoes the last group that is not undone.");
         Bench b = new Bench();
         b.fill(0, "a");
@@ -796,6 +868,20 @@ public final class EdgeFaceTest {
         refused("play on 3", INDEX, EdgeFaceTest::rich, x -> x.play(0, 3));
         refused("one that comes next", INDEX, EdgeFaceTest::rich, x -> x.play(1, 0));
         refused("one that is recorded now", INDEX, EdgeFaceTest::recording, x -> x.play(1, 0));
+        Sentence.says("Returns how many matches are replaced in all.");
+        Bench all = new Bench();
+        all.pattern("a|");
+        all.template("$0");
+        all.fill(0, times("a", 80));
+        for (int i = 0; i < 3; i++) {
+            all.x.record();
+            for (int k = 0; k < 5 * i; k++) {
+                all.x.replace(0, 0, 0, 100);
+            }
+            Bench.same("record", all.x.record(), i);
+            Bench.same("play", all.x.play(i, 0), 81 * 5 * i);
+            Bench.same("on an empty one", all.x.play(i, 1), 5 * i);
+        }
         Sentence.says("Throws `IllegalStateException` if one of its replacements would not be possible");
         Consumer<Bench> far = some -> {
             rich(some);
@@ -892,6 +978,31 @@ public final class EdgeFaceTest {
         refused("play: buffer and too far", INDEX, EdgeFaceTest::full, x -> x.play(2, 3));
         refused("stream: pattern and 4 streams", INDEX, EdgeFaceTest::full, x -> x.stream(12, true));
         refused("feed: stream and draft", INDEX, EdgeFaceTest::longDraft, x -> x.feed(4));
+    }
+
+    private static void outOfRange() {
+        Sentence.says("IllegalArgumentException for another argument out of range, and IllegalStateException if a call is not possible now.");
+        Consumer<Bench> rich = EdgeFaceTest::rich;
+        refused("four", ARGUMENT, rich, x -> x.type(127));
+        refused("letter", ARGUMENT, rich, x -> x.part(96));
+        refused("code", ARGUMENT, rich, x -> x.begins(0, 127) ? 1 : 0);
+        refused("index", ARGUMENT, rich, x -> x.literal(0, -1));
+        refused("engine", ARGUMENT, rich, x -> x.by(3, 0, 0, 0, 0));
+        refused("most", ARGUMENT, rich, x -> x.replace(0, 0, 0, 101));
+        refused("type", STATE, EdgeFaceTest::longDraft, x -> x.type('a'));
+        refused("pattern", STATE, EdgeFaceTest::full, x -> x.pattern());
+        refused("template", STATE, EdgeFaceTest::full, x -> x.template());
+        refused("fill", STATE, EdgeFaceTest::longDraft, x -> x.fill(0));
+        refused("replace", STATE, EdgeFaceTest::recording, x -> x.replace(0, 0, 0, 1));
+        refused("mark", STATE, EdgeFaceTest::full, x -> x.mark(0, 0, true));
+        refused("open", STATE, EdgeFaceTest::withOpenGroup, x -> x.open());
+        refused("shut", STATE, rich, x -> x.shut());
+        refused("undo", STATE, EdgeFaceTest::withOpenGroup, x -> x.undo());
+        refused("redo", STATE, EdgeFaceTest::withOpenGroup, x -> x.redo());
+        refused("record", STATE, EdgeFaceTest::full, x -> x.record());
+        refused("stream", STATE, EdgeFaceTest::full, x -> x.stream(0, true));
+        refused("feed", STATE, EdgeFaceTest::longDraft, x -> x.feed(0));
+        refused("finish", STATE, rich, x -> x.finish(2));
     }
 
     private static void refusedAnywhere() {

@@ -11,7 +11,9 @@ public final class EdgeMeaningTest {
     public static void main(String[] args) {
         characters();
         emptyRows();
+        alternatives();
         roundsThatHaveToBe();
+        roundsThatMayBe();
         emptyRounds();
         firstWays();
         looksAhead();
@@ -73,6 +75,46 @@ public final class EdgeMeaningTest {
             Ask.finds(none, "a", 0);
             Ask.findsFrom(none, "a", 1, 1001);
         }
+    }
+
+    private static void alternatives() {
+        Sentence.says("Alternatives: all ways of the first one, then those of the second one, and so on.");
+        Ask.finds("a|ab|abc", "abc", 1);
+        Ask.finds("abc|ab|a", "abc", 3);
+        Ask.finds("|a", "a", 0);
+        Ask.finds("a|", "a", 1);
+        Ask.finds("x||a", "a", 0);
+        Ask.finds("(?:a|ab)$", "ab", 2);
+        Ask.finds("(?:a|ab|abc)(?:c|bcd)", "abcd", 4);
+        Ask.hasGroup("(a*|b)(a|ab|)$", "aab", 2, 1003);
+        Ask.hasGroup("(a??|b)(a|ab)", "aab", 2, 1);
+        Sentence.says("the first start at which the pattern has a way, and its first way there, are the match;");
+        Ask.finds("b|aa|a", "xaab", 1003);
+        Ask.finds("b|a|aa", "xaab", 1002);
+        Ask.finds("ab?|b", "bab", 1);
+        Ask.finds("$|b", "ab", 1002);
+        Ask.finds("$|c", "ab", 2002);
+    }
+
+    private static void roundsThatMayBe() {
+        Sentence.says("from then on, if it is greedy, first all ways with one more round, as long as that is allowed, and then the one without; if it is reluctant, the other way round.");
+        Ask.finds("a{1,3}", "aaaa", 3);
+        Ask.finds("a{1,3}?", "aaaa", 1);
+        Ask.finds("a{1,3}?$", "aaaa", 1004);
+        Ask.finds("^a{1,3}$", "aaaa", -1);
+        Ask.finds("^a{1,3}?$", "aaaa", -1);
+        Ask.finds("a{2,2}?", "aaa", 2);
+        Ask.finds("a{0,0}?", "a", 0);
+        Ask.finds("a*", times("a", 80), 80);
+        Ask.finds("a*?", times("a", 80), 0);
+        Ask.hasGroup("a{1,3}(a*)", "aaaa", 1, 3004);
+        Ask.hasGroup("a{1,3}?(a*)", "aaaa", 1, 1004);
+        Ask.hasGroup("a*(a{1,2})$", "aaaa", 1, 3004);
+        Ask.hasGroup("a*?(a{1,2})$", "aaaa", 1, 2004);
+        // A round more goes ahead of another way of the round before it.
+        Ask.finds("(?:a|ab){1,2}", "aba", 1);
+        Ask.finds("(?:a|ab){1,2}c", "abac", 4);
+        Ask.hasGroup("(?:(a|ab)(b?)){1,2}?$", "abab", 1, 2003);
     }
 
     private static void roundsThatHaveToBe() {
@@ -978,6 +1020,15 @@ public final class EdgeMeaningTest {
         Ask.runsAway("(?:(?:a+){2})*", -1);
         Ask.runsAway("(?:(?:a*){2})*", 'a');
         Ask.runsAway("(?:(?:a+b?){0,9})*", 'a');
+        Sentence.says("By the inner one likewise, where that item counts of which the inner one is, or in which it is.");
+        Ask.runsAway("(?:a+b?)+", 'a');
+        Ask.runsAway("(?:b?a+)+", 'a');
+        Ask.runsAway("(?:b?(?:x|(?:c?a+)?)c*)+", 'a');
+        Ask.runsAway("(?:(?:ab*)?c*)+", 'c');
+        Ask.runsAway("(?:a(?:b*))+", -1);
+        Ask.runsAway("(?:a?(?:b+)d)+", -1);
+        Ask.runsAway("(?:a|(?:b+)d)+", -1);
+        Ask.runsAway("(?:a|d?(?:b+))+", 'b');
         Sentence.says("what a group has, calls, ends, looks and verbs never; others if their pattern can.");
         Ask.runsAway("(a)(?:(?:\\1)*)*", -1);
         Ask.runsAway("(a)(?:(?:(?1))*)*", -1);
